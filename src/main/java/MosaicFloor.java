@@ -4,8 +4,9 @@ import java.util.Arrays;
  * A mosaic floor: strips of stone are cut into tesserae, which are laid in the
  * cells of a floor with a border and a field, and lifted again.
  *
- * <p>Everything that a change can alter, and undo restores, is in a State. All
- * objects are made in the constructor; the calls make none.
+ * <p>Everything that a change can alter is in a State, so that undo and ifLaid
+ * need but copy it. All objects are made in the constructor and used again, as
+ * all that a run of calls makes is counted.
  */
 public final class MosaicFloor {
     public static final int INVALID_ARGUMENT = -1;
@@ -42,11 +43,11 @@ public final class MosaicFloor {
     private static final int FIRST_CHARACTER = 32;
     private static final int LAST_CHARACTER = 126;
 
-    /** Stands for a shade or a position that is not there. */
+    /** No shade and no position is below 0. */
     private static final int NONE = -1;
 
     private final State now = new State();
-    /** Where ifLaid lays, so that nothing changes. */
+    /** ifLaid lays here, as it must change nothing. */
     private final State trial = new State();
     private final History history = new History();
     private final Text text = new Text();
@@ -80,7 +81,7 @@ public final class MosaicFloor {
     }
 
     public int pattern() {
-        if (text.firstFault() != NONE || now.laidCells() > 0) {
+        if (text.firstFaultOrNone() != NONE || now.laidCells() > 0) {
             return NOT_POSSIBLE;
         }
         history.keep(now);
@@ -121,11 +122,11 @@ public final class MosaicFloor {
             case 0:
                 return now.plan.wantedAt(x, y);
             case 1:
-                return now.isLaid(x, y) ? now.laidAt(x, y) : NOT_FOUND;
+                return now.isLaid(x, y) ? now.laidOrNone(x, y) : NOT_FOUND;
             case 2:
                 return now.isLaid(x, y) ? now.differenceAt(x, y) : NOT_FOUND;
             case 3:
-                return now.plan.isBorder(x, y) ? now.plan.numberAt(x, y) : NOT_FOUND;
+                return now.plan.isBorder(x, y) ? now.plan.borderNumberAt(x, y) : NOT_FOUND;
             default:
                 return INVALID_ARGUMENT;
         }
@@ -173,7 +174,7 @@ public final class MosaicFloor {
     }
 
     public int flaw(int strip, int place) {
-        Strip marked = now.stock.stripNumbered(strip);
+        Strip marked = now.stock.stripOrNull(strip);
         if (marked == null || !isWithin(place, 0, GREATEST_STRIP - 1)) {
             return INVALID_ARGUMENT;
         }
@@ -189,7 +190,7 @@ public final class MosaicFloor {
     }
 
     public int cut(int strip) {
-        Strip cutStrip = now.stock.stripNumbered(strip);
+        Strip cutStrip = now.stock.stripOrNull(strip);
         if (cutStrip == null) {
             return INVALID_ARGUMENT;
         }
@@ -201,7 +202,7 @@ public final class MosaicFloor {
     }
 
     public int stripOf(int strip, int what) {
-        Strip asked = now.stock.stripNumbered(strip);
+        Strip asked = now.stock.stripOrNull(strip);
         if (asked == null) {
             return INVALID_ARGUMENT;
         }
@@ -215,9 +216,9 @@ public final class MosaicFloor {
             case 3:
                 return asked.flawCount;
             case 4:
-                return asked.tesserae(now.stock.size, now.stock.loss);
+                return asked.tesseraeAhead(now.stock.size, now.stock.loss);
             case 5:
-                return asked.goodTesserae(now.stock.size, now.stock.loss);
+                return asked.goodTesseraeAhead(now.stock.size, now.stock.loss);
             case 6:
                 return asked.goodCut;
             default:
@@ -231,12 +232,12 @@ public final class MosaicFloor {
         if (!now.plan.hasCell(x, y)) {
             return INVALID_ARGUMENT;
         }
-        if (now.isLaid(x, y) || now.shadeFor(x, y) == NONE) {
+        if (now.isLaid(x, y) || now.shadeForOrNone(x, y) == NONE) {
             return NOT_POSSIBLE;
         }
         history.keep(now);
-        now.layCell(x, y);
-        return now.laidAt(x, y);
+        now.layCellIfPossible(x, y);
+        return now.laidOrNone(x, y);
     }
 
     public int layAll() {
@@ -252,7 +253,7 @@ public final class MosaicFloor {
             return NOT_POSSIBLE;
         }
         history.keep(now);
-        return now.liftCell(x, y) ? 1 : 0;
+        return now.liftToHand(x, y) ? 1 : 0;
     }
 
     public int nearest(int x, int y) {
@@ -262,7 +263,7 @@ public final class MosaicFloor {
         if (now.isLaid(x, y)) {
             return NOT_FOUND;
         }
-        int found = now.shadeFor(x, y);
+        int found = now.shadeForOrNone(x, y);
         return found == NONE ? NOT_FOUND : found;
     }
 
@@ -312,7 +313,7 @@ public final class MosaicFloor {
     }
 
     public int fault() {
-        int position = text.firstFault();
+        int position = text.firstFaultOrNone();
         return position == NONE ? NOT_FOUND : position;
     }
 
@@ -323,7 +324,7 @@ public final class MosaicFloor {
     }
 
     private static boolean isShade(int shade) {
-        return isWithin(shade, 0, SHADES - 1);
+        return shade >= 0 && shade < SHADES;
     }
 
     private int changeSize(int size) {
@@ -413,7 +414,6 @@ public final class MosaicFloor {
         }
     }
 
-    /** The text in which a pattern is typed. */
     private static final class Text {
         private final char[] characters = new char[MOST_CHARACTERS];
         int length;
@@ -425,8 +425,7 @@ public final class MosaicFloor {
             }
         }
 
-        /** The fault of the text, or NONE if it is a pattern. */
-        int firstFault() {
+        int firstFaultOrNone() {
             int digits = 0;
             int commas = 0;
             for (int i = 0; i < length && i < characters.length; i++) {
@@ -443,7 +442,7 @@ public final class MosaicFloor {
             return digits == 0 ? length : NONE;
         }
 
-        /** Puts the shades of a text without fault into a row and returns how many there are. */
+        /** Tests no character again: only a text without fault is read. */
         int readShades(int[] shades) {
             int number = 0;
             int value = 0;
@@ -466,7 +465,6 @@ public final class MosaicFloor {
         }
     }
 
-    /** What the cells want: the measures of the floor, the pattern of its border and the shades of its field. */
     private static final class Plan {
         private final int[] fieldShades = new int[GREATEST_SIDE * GREATEST_SIDE];
         private final int[] patternShades = new int[MOST_PATTERN_SHADES];
@@ -511,13 +509,12 @@ public final class MosaicFloor {
             return 2 * halfOfBorder();
         }
 
-        /** The cells of the first two sides, each without the corner that begins the next side. */
+        /** A corner counts for the side that it begins alone, or it would be counted twice. */
         private int halfOfBorder() {
             return columns - 1 + rows - 1;
         }
 
-        /** The number that a cell of the border has in it. */
-        int numberAt(int x, int y) {
+        int borderNumberAt(int x, int y) {
             if (y == 0) {
                 return x;
             }
@@ -527,7 +524,7 @@ public final class MosaicFloor {
             if (y == rows - 1) {
                 return halfOfBorder() + columns - 1 - x;
             }
-            return borderCells() - y;
+            return 2 * halfOfBorder() - y;
         }
 
         int columnOf(int number) {
@@ -548,7 +545,7 @@ public final class MosaicFloor {
             if (!hasCell(x, y)) {
                 return NONE;
             }
-            return isBorder(x, y) ? wantedInBorder(numberAt(x, y)) : fieldShades[y * GREATEST_SIDE + x];
+            return isBorder(x, y) ? wantedInBorder(borderNumberAt(x, y)) : fieldShades[y * GREATEST_SIDE + x];
         }
 
         void wantInField(int x, int y, int wanted) {
@@ -558,7 +555,7 @@ public final class MosaicFloor {
         }
 
         private int wantedInBorder(int number) {
-            // The second half of the border has sides as long as those of the first.
+            // One half is enough, as opposite sides are equally long.
             int inHalf = number < halfOfBorder() ? number : number - halfOfBorder();
             boolean alongRow = inHalf < columns - 1;
             int sideCells = alongRow ? columns - 1 : rows - 1;
@@ -577,7 +574,6 @@ public final class MosaicFloor {
             return patternLength > 0 ? sideCells - sideCells % patternLength : 0;
         }
 
-        /** The shade with a number in the pattern, which begins again behind its last one. */
         int patternShade(int number) {
             if (number < 0 || patternLength <= 0) {
                 return NONE;
@@ -611,13 +607,13 @@ public final class MosaicFloor {
         }
     }
 
-    /** A strip of stone. A strip that has not come yet has the length 0 and gives nothing. */
+    /** A strip that has not come yet has the length 0: it gives nothing, so that no loop needs to leave it out. */
     private static final class Strip {
         private final int[] flaws = new int[MOST_FLAWS];
         int flawCount;
         int length;
         int shade;
-        /** Where what is left of it begins. */
+        /** Flaws have their places from the beginning of the whole strip, so what is cut off stays counted. */
         int start;
         int goodCut;
 
@@ -658,17 +654,17 @@ public final class MosaicFloor {
             return false;
         }
 
-        /** How many tesserae can still be cut. */
-        int tesserae(int size, int loss) {
+        int tesseraeAhead(int size, int loss) {
+            int left = length - start;
             int step = size + loss;
-            if (step <= 0 || left() < size) {
+            if (step <= 0 || left < size) {
                 return 0;
             }
-            return (left() - size) / step + 1;
+            return (left - size) / step + 1;
         }
 
-        int goodTesserae(int size, int loss) {
-            int all = tesserae(size, loss);
+        int goodTesseraeAhead(int size, int loss) {
+            int all = tesseraeAhead(size, loss);
             int good = 0;
             int from = start;
             for (int i = 0; i < all; i++) {
@@ -681,7 +677,7 @@ public final class MosaicFloor {
         }
 
         boolean givesGood(int size, int loss) {
-            int all = tesserae(size, loss);
+            int all = tesseraeAhead(size, loss);
             int from = start;
             for (int i = 0; i < all; i++) {
                 if (!hasFlawIn(from, from + size)) {
@@ -692,7 +688,6 @@ public final class MosaicFloor {
             return false;
         }
 
-        /** Cuts a tessera off, for which enough must be left, and says whether it is good. */
         boolean cutOff(int size, int loss) {
             boolean good = !hasFlawIn(start, start + size);
             start = Math.min(start + size + loss, length);
@@ -703,10 +698,9 @@ public final class MosaicFloor {
         }
     }
 
-    /** The strips, the tesserae at hand, and where the stone went that is in neither of them nor laid. */
     private static final class Stock {
         private final Strip[] strips = new Strip[MOST_STRIPS];
-        /** How many tesserae of each shade are at hand. */
+        /** Numbers of tesserae by their shades, as nothing else is known of them. */
         private final int[] atHand = new int[SHADES];
         int stripCount;
         int size = FIRST_SIZE;
@@ -736,7 +730,6 @@ public final class MosaicFloor {
             thrownLength = other.thrownLength;
         }
 
-        /** Adds a strip, for which there must be room, and returns its number. */
         int addStrip(int length, int shade) {
             int number = stripCount;
             if (number < strips.length) {
@@ -746,8 +739,7 @@ public final class MosaicFloor {
             return number;
         }
 
-        /** The strip with a number, or null if there is none. */
-        Strip stripNumbered(int number) {
+        Strip stripOrNull(int number) {
             return number >= 0 && number < stripCount && number < strips.length ? strips[number] : null;
         }
 
@@ -801,19 +793,17 @@ public final class MosaicFloor {
             Arrays.fill(atHand, 0);
         }
 
-        /** Good tesserae of a shade, at hand and those that can still be cut. */
         int readyOf(int shade) {
             int sum = atHandOf(shade);
             for (Strip strip : strips) {
                 if (strip.shade == shade) {
-                    sum += strip.goodTesserae(size, loss);
+                    sum += strip.goodTesseraeAhead(size, loss);
                 }
             }
             return sum;
         }
 
-        /** The shade that would be taken for a wanted one, or NONE if there is none. */
-        int nearestShade(int wanted) {
+        int nearestShadeOrNone(int wanted) {
             int best = NONE;
             for (int shade = 0; shade < atHand.length; shade++) {
                 if (atHand[shade] > 0) {
@@ -840,23 +830,21 @@ public final class MosaicFloor {
             return bestDifference < otherDifference ? best : other;
         }
 
-        /** Sees that a tessera of a shade is at hand, if one can still be cut. */
         void bringToHand(int shade) {
             if (atHandOf(shade) > 0) {
                 return;
             }
-            Strip strip = firstStripGiving(shade);
+            Strip strip = firstStripGivingOrNull(shade);
             if (strip == null) {
                 return;
             }
-            int all = strip.tesserae(size, loss);
+            int all = strip.tesseraeAhead(size, loss);
             for (int i = 0; i < all && atHandOf(shade) == 0; i++) {
                 cutFrom(strip);
             }
         }
 
-        /** The first strip that can still give a good tessera of a shade, or null if there is none. */
-        private Strip firstStripGiving(int shade) {
+        private Strip firstStripGivingOrNull(int shade) {
             for (Strip strip : strips) {
                 if (strip.shade == shade && strip.givesGood(size, loss)) {
                     return strip;
@@ -865,7 +853,6 @@ public final class MosaicFloor {
             return null;
         }
 
-        /** Cuts a tessera off a strip, of which enough must be left, and says whether it is good. */
         boolean cutFrom(Strip strip) {
             int leftBefore = strip.left();
             boolean good = strip.cutOff(size, loss);
@@ -879,11 +866,10 @@ public final class MosaicFloor {
         }
     }
 
-    /** All that a change can alter. */
     private static final class State {
         final Plan plan = new Plan();
         final Stock stock = new Stock();
-        /** The shades that are laid, NONE in an empty cell. */
+        /** A row has the same place on every floor, so that a new floor moves nothing. */
         private final int[] laid = new int[GREATEST_SIDE * GREATEST_SIDE];
         int liftedCount;
 
@@ -898,8 +884,7 @@ public final class MosaicFloor {
             liftedCount = other.liftedCount;
         }
 
-        /** The shade that is laid in a cell, or NONE if it is empty. */
-        int laidAt(int x, int y) {
+        int laidOrNone(int x, int y) {
             return plan.hasCell(x, y) ? laid[y * GREATEST_SIDE + x] : NONE;
         }
 
@@ -910,12 +895,12 @@ public final class MosaicFloor {
         }
 
         boolean isLaid(int x, int y) {
-            return laidAt(x, y) != NONE;
+            return laidOrNone(x, y) != NONE;
         }
 
-        /** The difference of what a cell wants and what is laid in it, 0 if it is empty. */
+        /** An empty cell has the difference 0, as sums are of laid cells alone. */
         int differenceAt(int x, int y) {
-            return isLaid(x, y) ? Math.abs(plan.wantedAt(x, y) - laidAt(x, y)) : 0;
+            return isLaid(x, y) ? Math.abs(plan.wantedAt(x, y) - laidOrNone(x, y)) : 0;
         }
 
         int laidCells() {
@@ -948,17 +933,15 @@ public final class MosaicFloor {
             return greatest;
         }
 
-        /** The shade that would be laid in a cell, or NONE if there is none. */
-        int shadeFor(int x, int y) {
-            return stock.nearestShade(plan.wantedAt(x, y));
+        int shadeForOrNone(int x, int y) {
+            return stock.nearestShadeOrNone(plan.wantedAt(x, y));
         }
 
-        /** Lays a cell, if it is empty and there is a shade for it. */
-        void layCell(int x, int y) {
+        void layCellIfPossible(int x, int y) {
             if (isLaid(x, y)) {
                 return;
             }
-            int shade = stock.nearestShade(plan.wantedAt(x, y));
+            int shade = stock.nearestShadeOrNone(plan.wantedAt(x, y));
             if (shade != NONE) {
                 stock.bringToHand(shade);
                 stock.takeFromHand(shade);
@@ -966,23 +949,21 @@ public final class MosaicFloor {
             }
         }
 
-        /** Lays all empty cells for which there are tesserae, and returns how many. */
         int layEmptyCells() {
             int before = laidCells();
             for (int number = 0; number < plan.borderCells(); number++) {
-                layCell(plan.columnOf(number), plan.rowOf(number));
+                layCellIfPossible(plan.columnOf(number), plan.rowOf(number));
             }
             for (int y = 1; y < plan.rows - 1; y++) {
                 for (int x = 1; x < plan.columns - 1; x++) {
-                    layCell(x, y);
+                    layCellIfPossible(x, y);
                 }
             }
             return laidCells() - before;
         }
 
-        /** Lifts the tessera of a laid cell and says whether it comes back to hand. */
-        boolean liftCell(int x, int y) {
-            int shade = laidAt(x, y);
+        boolean liftToHand(int x, int y) {
+            int shade = laidOrNone(x, y);
             putAt(x, y, NONE);
             liftedCount++;
             if (liftedCount % LIFTS_TO_A_BREAK == 0) {
@@ -1006,7 +987,6 @@ public final class MosaicFloor {
         }
     }
 
-    /** The states before the latest changes, the oldest one first. */
     private static final class History {
         private final State[] states = new State[MOST_STATES];
         private int used;

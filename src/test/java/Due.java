@@ -73,11 +73,11 @@ final class Due {
         return wanted;
     }
 
-    /** What can be seen of a floor, but for the text; for a small floor some 100 calls. */
+    /** What can be seen of a floor, but for the text and the history; for a small floor some 100 calls. */
     static List<Integer> look(MosaicFloor x) {
         List<Integer> seen = new ArrayList<>();
         for (int what = 0; what <= 26; what++) {
-            if (what != 14) {
+            if (what != 13 && what != 14) {
                 seen.add(x.count(what));
             }
         }

@@ -37,9 +37,23 @@ final class FaceTest {
         }
         for (Class<?> inside : MosaicFloor.class.getDeclaredClasses()) {
             due.is(inside.getName() + " is static", Modifier.isStatic(inside.getModifiers()) ? 1 : 0, 1);
+            noPublicName(due, inside, wanted);
             due.is(inside.getName() + " is not public", Modifier.isPublic(inside.getModifiers()) ? 1 : 0, 0);
         }
+        noPublicName(due, MosaicFloor.class, wanted);
         due.end();
+    }
+
+    /** No private method, nor one of a class inside, bears the name of a public one. */
+    private static void noPublicName(Due due, Class<?> type, TreeSet<String> wanted) {
+        for (Method method : type.getDeclaredMethods()) {
+            boolean name = false;
+            for (String member : wanted) {
+                name |= member.startsWith("method " + method.getName() + " ");
+            }
+            due.is(type.getName() + "." + method.getName() + " has a public name", name ? 1 : 0,
+                    Modifier.isPublic(method.getModifiers()) ? 1 : 0);
+        }
     }
 
     private static TreeSet<String> seenMembers() {

@@ -193,6 +193,7 @@ final class FloorTest {
         due.is("whole patterns", Due.withPattern("1,2,3", 2, 7, 4).count(5), 1);
         due.is("one cell over", Due.withPattern("1,2,3", 2, 7, 5).count(5), 0);
         due.is("two cells over", Due.withPattern("1,2,3", 2, 7, 6).count(5), 0);
+        due.is("two shades, odd sides", Due.withPattern("1,2", 2, 4, 4).count(5), 0);
         due.is("longer than a side", Due.withPattern("1,2,3", 2, 3, 3).count(5), 0);
     }
 
@@ -284,6 +285,9 @@ final class FloorTest {
         due.is("the greatest difference may be 0", exact.count(8), 0);
         exact.lift(1, 1);
         due.is("no cell is laid any more", exact.count(8), -4);
+        exact.lay(1, 1);
+        exact.lay(0, 2);
+        due.is("the greatest difference of the first column", exact.count(8), 50);
     }
 
     private static void accountsAddUp() {
@@ -330,7 +334,8 @@ final class FloorTest {
         MosaicFloor x = Due.withPattern("10,20", 1, 3, 3);
         x.strip(200, 12);
         x.strip(60, 40);
-        x.flaw(0, 0);
+        x.cut(0);
+        x.flaw(0, 30);
         return x;
     }
 
@@ -341,15 +346,13 @@ final class FloorTest {
             if (change == 10) {
                 x.layAll();
             }
-            // Fills the history, so that the number of its states is the same before and behind.
-            for (int i = 0; i < 5; i++) {
-                x.set(1, 2);
-            }
+            // The state before this one is another one, so that a change that is not recorded is seen.
+            x.set(1, 3);
+            x.set(1, 2);
             List<Integer> before = Due.look(x);
             Due.typeText(x, "1,2,3");
             due.is("change " + change + " is no error", doChange(x, change) >= 0 ? 1 : 0, 1);
             due.is("undo of change " + change, x.undo(), 4);
-            x.set(1, 2);
             due.same("the floor without change " + change, Due.look(x), before);
             due.is("the text stays", x.count(14), 5);
         }
@@ -400,16 +403,18 @@ final class FloorTest {
     /** An error changes nothing, and nor does a question. */
     private static void errorsChangeNothing() {
         MosaicFloor x = readyToWork();
+        x.undo();
+        x.undo();
         x.lay(1, 1);
         List<Integer> before = Due.look(x);
-        int errors = Math.max(x.floor(4, 4), x.floor(2, 4));
-        errors = Math.max(errors, Math.max(x.set(0, 10), Math.max(x.set(1, 6), x.set(3, 3))));
-        errors = Math.max(errors, Math.max(x.pattern(), Math.max(x.way(0), x.way(5))));
-        errors = Math.max(errors, Math.max(x.want(1, 1, 1), Math.max(x.want(0, 0, 1), x.want(1, 1, 100))));
-        errors = Math.max(errors, Math.max(x.strip(10, 1), Math.max(x.flaw(0, 0), x.flaw(5, 5))));
-        errors = Math.max(errors, Math.max(x.cut(2), Math.max(x.lay(1, 1), x.lay(9, 9))));
-        errors = Math.max(errors, Math.max(x.lift(0, 0), Math.max(x.lift(-1, 0), x.nearest(1, 1))));
-        due.is("all are errors", errors < 0 ? 1 : 0, 1);
+        int states = x.count(13);
+        int[] errors = {
+            x.floor(4, 4), x.floor(2, 4), x.set(0, 10), x.set(1, 6), x.set(3, 3), x.pattern(), x.way(0), x.way(5),
+            x.want(1, 1, 1), x.want(0, 0, 1), x.want(1, 1, 100), x.strip(10, 1), x.flaw(1, 1), x.flaw(5, 5),
+            x.cut(2), x.lay(1, 1), x.lay(9, 9), x.lift(0, 0), x.lift(-1, 0), x.nearest(1, 1)};
+        for (int i = 0; i < errors.length; i++) {
+            due.is("call " + i + " is an error", errors[i] < 0 ? 1 : 0, 1);
+        }
         x.ifLaid();
         x.nearest(0, 0);
         x.ready(12);
@@ -417,5 +422,7 @@ final class FloorTest {
         x.stripFor(20);
         x.fault();
         due.same("the floor", Due.look(x), before);
+        due.is("less than five states, so that one more is seen", states, 4);
+        due.is("states", x.count(13), states);
     }
 }

@@ -7,6 +7,7 @@ final class LayingTest {
     public static void main(String[] args) {
         layTakesTheNearestShade();
         layTakesFromHandFirst();
+        layTakesTheLastOneAtHand();
         layCutsTheFirstStripUntilGood();
         layIsRefused();
         layAllHasAnOrder();
@@ -57,6 +58,20 @@ final class LayingTest {
         due.is("lay another", x.lay(2, 1), 50);
         due.is("the first strip was cut", x.stripOf(0, 6), 1);
         due.is("the second one was not", x.stripOf(1, 6), 1);
+    }
+
+    private static void layTakesTheLastOneAtHand() {
+        MosaicFloor x = new MosaicFloor();
+        x.strip(20, 0);
+        x.strip(20, 99);
+        x.cut(0);
+        x.cut(1);
+        due.is("the nearer one at hand", x.nearest(1, 1), 99);
+        due.is("laid from hand", x.lay(1, 1), 99);
+        due.is("the last one", x.nearest(2, 1), 0);
+        due.is("laid from hand too", x.lay(2, 1), 0);
+        due.is("none is at hand", x.count(10), 0);
+        due.is("no more", x.lay(3, 1), -2);
     }
 
     private static void layCutsTheFirstStripUntilGood() {
@@ -206,6 +221,14 @@ final class LayingTest {
         due.is("the other one alone is left", x.nearest(2, 0), 52);
         x.lay(2, 0);
         due.is("nothing is left", x.nearest(3, 0), -4);
+        x = new MosaicFloor();
+        x.strip(42, 50);
+        x.flaw(0, 5);
+        x.flaw(0, 41);
+        due.is("two can be cut, but no good one", x.nearest(1, 1), -4);
+        x.undo();
+        x.flaw(0, 21);
+        due.is("a flaw in what the saw takes", x.nearest(1, 1), 50);
     }
 
     private static void readyTells() {
@@ -296,6 +319,11 @@ final class LayingTest {
         due.is("layAll", x.layAll(), 23);
         due.is("the sum", x.count(7), 45 + 5 + 15 * 40 + 7 * 10);
         due.is("ifLaid then", x.ifLaid(), x.count(7));
+        x = new MosaicFloor();
+        x.strip(64, 9);
+        x.flaw(0, 50);
+        x.flaw(0, 30);
+        due.is("one good one of three", x.ifLaid(), 9);
     }
 
     private static void ifLaidChangesNothing() {
