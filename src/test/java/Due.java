@@ -4,6 +4,8 @@ import java.util.List;
 /** Compares answers with the ones that are due, and what several tests do with a floor. */
 final class Due {
     private final String test;
+    private String sentence = "";
+    private int askedBySentence = 1;
     private int asked;
     private int wrong;
 
@@ -11,24 +13,43 @@ final class Due {
         this.test = test;
     }
 
+    /** Tells the sentence of the document by which the next answers are due. */
+    void by(String words) {
+        noSentenceWithoutAnswers();
+        sentence = words;
+        askedBySentence = 0;
+    }
+
+    private void noSentenceWithoutAnswers() {
+        if (askedBySentence == 0) {
+            isWrong("nothing was asked");
+        }
+    }
+
     void is(String call, long got, long due) {
         asked++;
+        askedBySentence++;
         if (got != due) {
-            wrong++;
-            System.out.println(test + ": " + call + " answered " + got + ", due is " + due);
+            isWrong(call + " answered " + got + ", due is " + due);
         }
     }
 
     void same(String what, List<Integer> got, List<Integer> due) {
         asked++;
+        askedBySentence++;
         if (!got.equals(due)) {
-            wrong++;
-            System.out.println(test + ": " + what + " is " + got + ", due is " + due);
+            isWrong(what + " is " + got + ", due is " + due);
         }
+    }
+
+    private void isWrong(String what) {
+        wrong++;
+        System.out.println(test + ": " + what + (sentence.isEmpty() ? "" : " [" + sentence + "]"));
     }
 
     /** Says how it went; with a wrong answer the test ends with the exit code 1. */
     void end() {
+        noSentenceWithoutAnswers();
         if (asked == 0 || wrong > 0) {
             System.out.println(test + ": " + wrong + " of " + asked + " answers are not as due");
             System.exit(1);
@@ -42,6 +63,24 @@ final class Due {
         for (char character : text.toCharArray()) {
             x.type(character);
         }
+    }
+
+    /** A new floor with a strip of each of the shades. */
+    static MosaicFloor withStrips(int length, int... shades) {
+        MosaicFloor x = new MosaicFloor();
+        for (int shade : shades) {
+            x.strip(length, shade);
+        }
+        return x;
+    }
+
+    /** The text of a pattern with the shades 10, 11, 12 and so on. */
+    static String shadesFrom10(int length) {
+        StringBuilder text = new StringBuilder();
+        for (int i = 0; i < length; i++) {
+            text.append(i == 0 ? "" : ",").append(10 + i);
+        }
+        return text.toString();
     }
 
     static MosaicFloor withPattern(String pattern, int way, int columns, int rows) {
@@ -71,6 +110,26 @@ final class Due {
             wanted.add(x.cell(0, i, 0));
         }
         return wanted;
+    }
+
+    /** The shades that are laid, -4 for an empty cell, row by row. */
+    static List<Integer> laid(MosaicFloor x) {
+        List<Integer> laid = new ArrayList<>();
+        for (int y = 0; y < x.count(1); y++) {
+            for (int column = 0; column < x.count(0); column++) {
+                laid.add(x.cell(column, y, 1));
+            }
+        }
+        return laid;
+    }
+
+    /** The accounts 0 to 6. */
+    static List<Integer> accounts(MosaicFloor x) {
+        List<Integer> accounts = new ArrayList<>();
+        for (int what = 20; what <= 26; what++) {
+            accounts.add(x.count(what));
+        }
+        return accounts;
     }
 
     /** What can be seen of a floor, but for the text and the history; for a small floor some 100 calls. */
