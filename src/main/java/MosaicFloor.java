@@ -941,7 +941,7 @@ public final class MosaicFloor {
             if (isLaid(x, y)) {
                 return;
             }
-            int shade = stock.nearestShadeOrNone(plan.wantedAt(x, y));
+            int shade = shadeForOrNone(x, y);
             if (shade != NONE) {
                 stock.bringToHand(shade);
                 stock.takeFromHand(shade);
@@ -1011,13 +1011,13 @@ public final class MosaicFloor {
             }
         }
 
+        /** The oldest one moves behind the others, as its object is used again for the state that comes next. */
         private void dropOldest() {
-            State oldest = states[0];
             for (int i = 1; i < states.length; i++) {
+                State oldest = states[i - 1];
                 states[i - 1] = states[i];
+                states[i] = oldest;
             }
-            // Its object is used again for the state that comes next.
-            states[states.length - 1] = oldest;
             used--;
         }
 
